@@ -13,13 +13,23 @@ public final class InstructionTest {
         subtraction();
         logic();
         additionWithCarry();
+        carryAndOverflowAtTheEdge();
         multiplication();
         division();
         shift();
         loadAndStore();
+        addressesWrap();
+        outside(Checks.LOAD);
+        outside(Checks.STORE);
+        firstAndLastAddress(Checks.LOAD);
+        firstAndLastAddress(Checks.STORE);
+        rights();
         jumpConditions();
         jumpTargets();
+        jumpToItself();
+        operandsAreMasked();
         operandsAreReadFirst();
+        logicReadsFirst();
         Checks.finish();
     }
 
@@ -133,6 +143,31 @@ public final class InstructionTest {
         }
     }
 
+    /** Just inside and just outside of 2^32 - 1 and of the least and the greatest int. */
+    private static void carryAndOverflowAtTheEdge() {
+        sets(Checks.ADD, 2, -3, -1, N);
+        sets(Checks.ADD, 3, -3, 0, Z + C);
+        sets(Checks.ADD, MAX - 1, 1, MAX, 0);
+        sets(Checks.ADD, MAX, 0, MAX, 0);
+        sets(Checks.ADD, MIN, 0, MIN, N);
+        sets(Checks.ADD, MIN + 1, -1, MIN, N + C);
+        sets(Checks.SUB, MAX, 0, MAX, 0);
+        sets(Checks.SUB, MIN, 0, MIN, N);
+        sets(Checks.SUB, MIN + 1, 1, MIN, N);
+        sets(Checks.SUB, 0, MAX, MIN + 1, N + C);
+        sets(Checks.SUB, -2, -1, -1, N + C);
+        sets(Checks.SUB, MAX, MIN, -1, N + C + V);
+        sets(Checks.SUB, MIN, MAX, 1, V);
+        gives(Checks.ADC, 2, -4, C, -1, N);
+        gives(Checks.ADC, 2, -3, 0, -1, N);
+        gives(Checks.ADC, 2, -3, C, 0, Z + C);
+        gives(Checks.ADC, MAX - 1, 0, C, MAX, 0);
+        gives(Checks.ADC, MAX - 1, 1, 0, MAX, 0);
+        gives(Checks.ADC, MAX - 1, 1, C, MIN, N + V);
+        gives(Checks.ADC, MIN, 0, 0, MIN, N);
+        gives(Checks.ADC, MIN, -2, C, MAX, C + V);
+    }
+
     private static void multiplication() {
         leaves(Checks.MUL, 6, 7, 42);
         leaves(Checks.MUL, 0, -5, 0);
@@ -153,6 +188,14 @@ public final class InstructionTest {
         leaves(Checks.DIV, MIN, 1, MIN);
         leaves(Checks.DIV, MIN, MIN, 1);
         leaves(Checks.DIV, MAX, MIN, 0);
+        leaves(Checks.DIV, -1, 2, 0);
+        leaves(Checks.DIV, 1, -2, 0);
+        leaves(Checks.DIV, MIN, MAX, -1);
+        leaves(Checks.DIV, MIN + 1, -1, MAX);
+        divisionByZero();
+    }
+
+    private static void divisionByZero() {
         int[] dividends = {0, 1, -1, MIN, MAX};
         for (int dividend : dividends) {
             PreciseTranslator x = new PreciseTranslator(1, 2);
@@ -206,19 +249,38 @@ public final class InstructionTest {
             x.emit(Checks.STORE, 1, 2, MIN + 1);
             x.emit(Checks.STORE, 3, 3, 15);
             Checks.due("LOAD, STORE", x.run(9), PreciseTranslator.NO_CODE);
-            Checks.due("LOAD wraps", x.reg(3), -8);
-            Checks.due("STORE wraps", x.peek(0), 9);
-            Checks.due("STORE below", x.peek(7), -8);
+            Checks.due("LOAD from far below", x.reg(3), -8);
+            Checks.due("STORE from far below", x.peek(0), 9);
+            Checks.due("STORE above a negative", x.peek(7), -8);
             Checks.due("flags stay", x.flags(), flags);
         }
-        outside(Checks.LOAD);
-        outside(Checks.STORE);
-        rights();
+    }
+
+    /** Only two ints far below 0 have a sum that wraps into the memory. */
+    private static void addressesWrap() {
+        for (int pages = 1; pages <= 4; pages++) {
+            int last = pages * 8 - 1;
+            PreciseTranslator x = new PreciseTranslator(pages, 2);
+            x.poke(0, 40);
+            x.poke(last, 41);
+            x.setReg(1, MIN);
+            x.emit(Checks.LOAD, 2, 1, MIN);
+            x.emit(Checks.LOAD, 3, 1, MIN + last);
+            x.emit(Checks.STORE, 3, 1, MIN);
+            x.emit(Checks.STORE, 2, 1, MIN + last);
+            x.emit(Checks.LOAD, 4, 1, MIN + last + 1);
+            Checks.due("wrapped addresses", x.run(9), PreciseTranslator.OUTSIDE);
+            Checks.due("wrapped outside", x.where(), last + 1);
+            Checks.due("LOAD wraps to the first", x.reg(2), 40);
+            Checks.due("LOAD wraps to the last", x.reg(3), 41);
+            Checks.due("STORE wraps to the first", x.peek(0), 41);
+            Checks.due("STORE wraps to the last", x.peek(last), 40);
+        }
     }
 
     private static void outside(int op) {
-        int[] bases = {0, 8, MAX, MIN, 0, -1, 4};
-        int[] offsets = {8, 0, 1, 0, -1, 0, 4};
+        int[] bases = {0, 8, MAX, MIN, 0, -1, 4, MIN, MAX};
+        int[] offsets = {8, 0, 1, 0, -1, 0, 4, -1, MAX};
         for (int rights = 0; rights <= 2; rights++) {
             for (int i = 0; i < bases.length; i++) {
                 PreciseTranslator x = new PreciseTranslator(1, rights);
@@ -233,6 +295,30 @@ public final class InstructionTest {
                 Checks.due("flags of " + op, x.flags(), 5);
             }
         }
+    }
+
+    private static void firstAndLastAddress(int op) {
+        for (int pages = 1; pages <= 4; pages++) {
+            int last = pages * 8 - 1;
+            reaches(op, pages, 0, PreciseTranslator.BUDGET, 0);
+            reaches(op, pages, last, PreciseTranslator.BUDGET, 0);
+            reaches(op, pages, -1, PreciseTranslator.OUTSIDE, -1);
+            reaches(op, pages, last + 1, PreciseTranslator.OUTSIDE, last + 1);
+        }
+    }
+
+    private static void reaches(int op, int pages, int address, int why, int where) {
+        String what = "op " + op + " at " + address + " of " + pages + " pages: ";
+        boolean done = why == PreciseTranslator.BUDGET;
+        PreciseTranslator x = new PreciseTranslator(pages, 2);
+        x.poke(address, 51);
+        x.setReg(1, 61);
+        x.setReg(2, 100);
+        x.emit(op, 1, 2, address - 100);
+        Checks.due(what + "run", x.run(1), why);
+        Checks.due(what + "where", x.where(), where);
+        Checks.due(what + "reg", x.reg(1), done && op == Checks.LOAD ? 51 : 61);
+        Checks.due(what + "cell", x.peek(address), !done ? 0 : op == Checks.LOAD ? 51 : 61);
     }
 
     private static void rights() {
@@ -305,6 +391,64 @@ public final class InstructionTest {
         x.emit(Checks.JUMP, 1, 0, 7);
         Checks.due("JUMP not taken at the end", x.run(9), PreciseTranslator.NO_CODE);
         Checks.due("JUMP not taken pc", x.pc(), 1);
+    }
+
+    private static void jumpToItself() {
+        PreciseTranslator x = new PreciseTranslator(1, 2);
+        x.emit(Checks.JUMP, 0, 0, 0);
+        Checks.due("JUMP to itself", x.run(300), PreciseTranslator.BUDGET);
+        Checks.due("JUMP to itself steps", x.steps(), 300);
+        Checks.due("JUMP to itself pc", x.pc(), 0);
+    }
+
+    /** Register numbers are a & 7, b & 7 and c & 7; c alone is the int as it was given. */
+    private static void operandsAreMasked() {
+        int[] far = {8, 16, -8, 256, MIN, MAX - 7};
+        for (int op = Checks.SET; op <= Checks.STORE; op++) {
+            boolean registerC = op >= Checks.ADD && op <= Checks.DIV;
+            String due = masked(op, 1, 2, 3);
+            for (int more : far) {
+                String what = "op " + op + " with an operand more by " + more;
+                Checks.same(what + ", a", masked(op, 1 + more, 2, 3), due);
+                Checks.same(what + ", b", masked(op, 1, 2 + more, 3), due);
+                if (registerC) {
+                    Checks.same(what + ", c", masked(op, 1, 2, 3 + more), due);
+                }
+            }
+            Checks.same("op " + op + ", -7, -6", masked(op, -7, -6, 3), due);
+        }
+    }
+
+    private static String masked(int op, int a, int b, int c) {
+        PreciseTranslator x = new PreciseTranslator(4, 2);
+        for (int index = 0; index < 8; index++) {
+            x.setReg(index, 26 - 3 * index);
+        }
+        for (int address = 0; address < 32; address++) {
+            x.poke(address, 1000 + address);
+        }
+        x.setFlags(C);
+        x.emit(op, a, b, c);
+        Checks.due("masked op " + op, x.run(1), PreciseTranslator.BUDGET);
+        return Checks.seen(x);
+    }
+
+    private static void logicReadsFirst() {
+        PreciseTranslator x = new PreciseTranslator(1, 2);
+        x.setReg(1, 12);
+        x.setReg(2, 10);
+        x.emit(Checks.AND, 1, 1, 2);
+        x.emit(Checks.XOR, 2, 1, 2);
+        x.emit(Checks.AND, 1, 1, 1);
+        x.emit(Checks.XOR, 1, 1, 1);
+        x.run(2);
+        Checks.due("AND over its left", x.reg(1), 8);
+        Checks.due("XOR over its right", x.reg(2), 2);
+        x.run(1);
+        Checks.due("AND 1,1,1", x.reg(1), 8);
+        x.run(1);
+        Checks.due("XOR 1,1,1", x.reg(1), 0);
+        Checks.due("XOR 1,1,1 flags", x.flags(), Z);
     }
 
     private static void operandsAreReadFirst() {

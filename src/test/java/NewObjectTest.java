@@ -62,7 +62,17 @@ public final class NewObjectTest {
     }
 
     private static void allIsZero() {
-        PreciseTranslator x = new PreciseTranslator(4, 2);
+        for (int pages = -1; pages <= 6; pages++) {
+            for (int rights = -1; rights <= 3; rights++) {
+                isZero(pages, rights);
+            }
+        }
+        isZero(Checks.MIN, Checks.MAX);
+        isZero(Checks.MAX, Checks.MIN);
+    }
+
+    private static void isZero(int pages, int rights) {
+        PreciseTranslator x = new PreciseTranslator(pages, rights);
         for (int index = 0; index < 8; index++) {
             Checks.due("new reg " + index, x.reg(index), 0);
         }

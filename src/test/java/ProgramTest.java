@@ -3,6 +3,7 @@ public final class ProgramTest {
     public static void main(String[] args) {
         emitOps();
         emitRoom();
+        firstAndLastNumber();
         emitKeepsOperands();
         dropAnswers();
         dropAndEmitAgain();
@@ -39,6 +40,30 @@ public final class ProgramTest {
         Checks.due("full again", x.emit(Checks.SET, 1, 0, 5), PreciseTranslator.NO_ROOM);
     }
 
+    private static void firstAndLastNumber() {
+        PreciseTranslator x = new PreciseTranslator(1, 2);
+        for (int i = 0; i < 40; i++) {
+            x.emit(Checks.SET, 1, 0, 500 + i);
+        }
+        int[] inside = {0, 1, 38, 39};
+        for (int number : inside) {
+            x.jump(number);
+            Checks.due("run at " + number, x.run(1), PreciseTranslator.BUDGET);
+            Checks.due("value at " + number, x.reg(1), 500 + number);
+            Checks.due("pc after " + number, x.pc(), number + 1);
+        }
+        int[] outside = {-1, 40, 41, Checks.MIN, Checks.MAX};
+        for (int number : outside) {
+            x.jump(number);
+            Checks.due("run at " + number, x.run(1), PreciseTranslator.NO_CODE);
+        }
+        Checks.due("drop", x.drop(), 39);
+        x.jump(39);
+        Checks.due("run at the dropped", x.run(1), PreciseTranslator.NO_CODE);
+        x.jump(38);
+        Checks.due("run at the last left", x.run(1), PreciseTranslator.BUDGET);
+    }
+
     private static void emitKeepsOperands() {
         PreciseTranslator x = new PreciseTranslator(1, 2);
         x.setReg(5, 30);
@@ -54,7 +79,7 @@ public final class ProgramTest {
 
     private static void dropAnswers() {
         PreciseTranslator x = new PreciseTranslator(1, 2);
-        Checks.due("drop of none", x.drop(), PreciseTranslator.EMPTY);
+        Checks.due("drop of none at first", x.drop(), PreciseTranslator.EMPTY);
         x.emit(Checks.HALT, 0, 0, 0);
         x.emit(Checks.HALT, 0, 0, 0);
         Checks.due("drop to 1", x.drop(), 1);
@@ -62,6 +87,18 @@ public final class ProgramTest {
         Checks.due("drop of none", x.drop(), PreciseTranslator.EMPTY);
         Checks.due("drop of none again", x.drop(), PreciseTranslator.EMPTY);
         Checks.due("emit after empty", x.emit(Checks.HALT, 0, 0, 0), 0);
+        dropsFromFull();
+    }
+
+    private static void dropsFromFull() {
+        PreciseTranslator x = new PreciseTranslator(1, 2);
+        for (int i = 0; i < 40; i++) {
+            x.emit(Checks.HALT, 0, 0, 0);
+        }
+        for (int left = 39; left >= 0; left--) {
+            Checks.due("drop to " + left, x.drop(), left);
+        }
+        Checks.due("drop of none after 40", x.drop(), PreciseTranslator.EMPTY);
     }
 
     private static void dropAndEmitAgain() {

@@ -2,11 +2,14 @@
 public final class RunTest {
     public static void main(String[] args) {
         budgets();
+        greatestBudgetComesBeforeTheStep();
         budgetComesBeforeTheStep();
         stopsChangeNothing();
-        faultIsExact();
+        noCodeChangesNothing();
+        faultsAreExact();
         slicesGiveTheSameStates();
         whereOnlyForMemoryFaults();
+        whereOfAddressZero();
         goesOnAfterMending();
         codeChangedBetweenSlices();
         Checks.finish();
@@ -30,6 +33,39 @@ public final class RunTest {
             Checks.due("pc of " + asked[i], x.pc(), done[i] % 2);
             Checks.due("sum of " + asked[i], x.reg(1), (done[i] + 1) / 2);
             Checks.due("where of " + asked[i], x.where(), 0);
+        }
+    }
+
+    /** Does exactly as many steps as asked, 3 or more, before a LOAD that faults with OUTSIDE. */
+    private static PreciseTranslator faultsAfter(int steps) {
+        PreciseTranslator x = new PreciseTranslator(1, 2);
+        x.setReg(7, 1);
+        x.setReg(1, steps / 2);
+        x.emit(Checks.SUB, 1, 1, 7);
+        x.emit(Checks.JUMP, 2, 0, 0);
+        if (steps % 2 == 1) {
+            x.emit(Checks.SET, 2, 0, 5);
+        }
+        x.emit(Checks.LOAD, 3, 0, -9);
+        return x;
+    }
+
+    private static void greatestBudgetComesBeforeTheStep() {
+        int[] asked = {300, 301, 302, Checks.MAX};
+        for (int budget : asked) {
+            String what = "run " + budget + ", fault after ";
+            PreciseTranslator x = faultsAfter(299);
+            Checks.due(what + 299, x.run(budget), PreciseTranslator.OUTSIDE);
+            Checks.due(what + "299, steps", x.steps(), 299);
+            Checks.due(what + "299, where", x.where(), -9);
+            for (int steps = 300; steps <= 302; steps++) {
+                x = faultsAfter(steps);
+                Checks.due(what + steps, x.run(budget), PreciseTranslator.BUDGET);
+                Checks.due(what + steps + ", steps", x.steps(), 300);
+                Checks.due(what + steps + ", where", x.where(), 0);
+                Checks.due(what + steps + ", then", x.run(budget), PreciseTranslator.OUTSIDE);
+                Checks.due(what + steps + ", then steps", x.steps(), steps - 300);
+            }
         }
     }
 
@@ -59,7 +95,11 @@ public final class RunTest {
         Checks.due(what + "run(2)", x.run(2), PreciseTranslator.BUDGET);
         Checks.due(what + "steps", x.steps(), 2);
         Checks.due(what + "where", x.where(), 0);
+        String before = Checks.seen(x).replace("steps 2", "steps 0");
         Checks.due(what + "run(0)", x.run(0), PreciseTranslator.BUDGET);
+        Checks.due(what + "run(-1)", x.run(-1), PreciseTranslator.BUDGET);
+        Checks.due(what + "run(least)", x.run(Checks.MIN), PreciseTranslator.BUDGET);
+        Checks.same(what + "budget 0", Checks.seen(x), before);
         Checks.due(what + "run(1)", x.run(1), why);
         Checks.due(what + "steps", x.steps(), 0);
         Checks.due(what + "where", x.where(), where);
@@ -102,30 +142,68 @@ public final class RunTest {
         }
     }
 
+    private static void noCodeChangesNothing() {
+        int[] outside = {1, 2, 40, -1, Checks.MIN, Checks.MAX};
+        for (int target : outside) {
+            PreciseTranslator x = new PreciseTranslator(4, 2);
+            for (int index = 0; index < 8; index++) {
+                x.setReg(index, 100 + index);
+            }
+            for (int address = 0; address < 32; address++) {
+                x.poke(address, 200 + address);
+            }
+            x.setFlags(11);
+            x.emit(Checks.SET, 1, 0, 5);
+            x.jump(target);
+            String before = Checks.seen(x);
+            Checks.due("no code at " + target, x.run(7), PreciseTranslator.NO_CODE);
+            Checks.same("no code at " + target, Checks.seen(x), before);
+        }
+    }
+
     private static String stateOf(PreciseTranslator x) {
         String seen = Checks.seen(x);
         return seen.substring(0, seen.indexOf(" steps"));
     }
 
-    private static void faultIsExact() {
-        PreciseTranslator x = new PreciseTranslator(1, 2);
+    private static void faultsAreExact() {
+        faultIsExact(Checks.DIV, 3, PreciseTranslator.DIVIDE, 0);
+        faultIsExact(Checks.LOAD, 24, PreciseTranslator.OUTSIDE, 24);
+        faultIsExact(Checks.STORE, -1, PreciseTranslator.OUTSIDE, -1);
+        faultIsExact(Checks.LOAD, 8, PreciseTranslator.NO_READ, 8);
+        faultIsExact(Checks.STORE, 16, PreciseTranslator.NO_WRITE, 16);
+        faultIsExact(Checks.STORE, 15, PreciseTranslator.NO_WRITE, 15);
+    }
+
+    /** The faulting instruction stands between others, each of which would be seen. */
+    private static void faultIsExact(int op, int c, int why, int where) {
+        String what = "fault " + why + " of op " + op + ": ";
+        PreciseTranslator x = new PreciseTranslator(3, 2);
+        x.setPage(1, 0);
+        x.setPage(2, 1);
         x.setReg(1, Checks.MAX);
         x.setReg(2, 1);
-        x.emit(Checks.ADD, 3, 1, 2);
-        x.emit(Checks.STORE, 3, 0, 2);
-        x.emit(Checks.DIV, 3, 1, 0);
-        x.emit(Checks.SET, 4, 0, 9);
-        x.emit(Checks.XOR, 5, 1, 1);
+        x.poke(8, 81);
+        x.poke(15, 82);
+        x.poke(16, 83);
+        x.emit(Checks.ADD, 4, 1, 2);
+        x.emit(Checks.STORE, 4, 0, 2);
+        x.emit(op, 4, 0, c);
+        x.emit(Checks.SET, 5, 0, 9);
+        x.emit(Checks.XOR, 6, 1, 1);
         x.emit(Checks.STORE, 2, 0, 3);
-        Checks.due("run", x.run(300), PreciseTranslator.DIVIDE);
-        Checks.due("steps before", x.steps(), 2);
-        Checks.due("result before", x.reg(3), Checks.MIN);
-        Checks.due("flags before", x.flags(), Checks.N + Checks.V);
-        Checks.due("store before", x.peek(2), Checks.MIN);
-        Checks.due("nothing after", x.reg(4), 0);
-        Checks.due("no store after", x.peek(3), 0);
-        Checks.due("pc at the fault", x.pc(), 2);
-        Checks.due("where of DIVIDE", x.where(), 0);
+        Checks.due(what + "run", x.run(300), why);
+        Checks.due(what + "steps before", x.steps(), 2);
+        Checks.due(what + "result before", x.reg(4), Checks.MIN);
+        Checks.due(what + "flags before", x.flags(), Checks.N + Checks.V);
+        Checks.due(what + "store before", x.peek(2), Checks.MIN);
+        Checks.due(what + "cell 8", x.peek(8), 81);
+        Checks.due(what + "cell 15", x.peek(15), 82);
+        Checks.due(what + "cell 16", x.peek(16), 83);
+        Checks.due(what + "nothing after", x.reg(5), 0);
+        Checks.due(what + "no store after", x.peek(3), 0);
+        Checks.due(what + "pc at the fault", x.pc(), 2);
+        Checks.due(what + "where", x.where(), where);
     }
 
     /** Counts down from 20, storing every number and adding them up. */
@@ -188,6 +266,17 @@ public final class RunTest {
             Checks.due("then", x.run(1), why[i]);
             Checks.due("then where", x.where(), 0);
         }
+    }
+
+    private static void whereOfAddressZero() {
+        PreciseTranslator x = new PreciseTranslator(1, 0);
+        x.emit(Checks.LOAD, 1, 2, 0);
+        x.setReg(2, -6);
+        Checks.due("at -6", x.run(1), PreciseTranslator.OUTSIDE);
+        Checks.due("where -6", x.where(), -6);
+        x.setReg(2, 0);
+        Checks.due("at 0", x.run(1), PreciseTranslator.NO_READ);
+        Checks.due("where 0", x.where(), 0);
     }
 
     private static void goesOnAfterMending() {

@@ -4,12 +4,15 @@ public final class StateTest {
         registers();
         flags();
         cells();
+        cellsOfEachSize();
         pageRefusals();
+        pagesOfEachSize();
         pageRights();
         jump();
         reset();
         stepsAndWhereAreOfTheLastRun();
         objectsAreApart();
+        lastPromisedCall();
         Checks.finish();
     }
 
@@ -68,6 +71,43 @@ public final class StateTest {
             Checks.same("bad poke", Checks.seen(x), before);
             for (int address = 0; address < 24; address++) {
                 Checks.due("peek " + address, x.peek(address), 500 - address);
+            }
+        }
+    }
+
+    private static void cellsOfEachSize() {
+        for (int pages = 1; pages <= 4; pages++) {
+            String what = pages + " pages: ";
+            PreciseTranslator x = new PreciseTranslator(pages, 0);
+            int last = pages * 8 - 1;
+            Checks.due(what + "poke first", x.poke(0, Checks.MIN), 0);
+            Checks.due(what + "poke last", x.poke(last, Checks.MAX), 0);
+            Checks.due(what + "poke below", x.poke(-1, 5), PreciseTranslator.BAD_INDEX);
+            Checks.due(what + "poke behind", x.poke(last + 1, 5), PreciseTranslator.BAD_INDEX);
+            Checks.due(what + "peek first", x.peek(0), Checks.MIN);
+            Checks.due(what + "peek last", x.peek(last), Checks.MAX);
+            Checks.due(what + "peek below", x.peek(-1), 0);
+            Checks.due(what + "peek behind", x.peek(last + 1), 0);
+        }
+    }
+
+    private static void pagesOfEachSize() {
+        for (int pages = 1; pages <= 4; pages++) {
+            String what = pages + " pages: ";
+            PreciseTranslator x = new PreciseTranslator(pages, 1);
+            Checks.due(what + "below", x.setPage(-1, 2), PreciseTranslator.BAD_INDEX);
+            Checks.due(what + "behind", x.setPage(pages, 2), PreciseTranslator.BAD_INDEX);
+            Checks.due(what + "behind, bad rights", x.setPage(pages, 3),
+                    PreciseTranslator.BAD_INDEX);
+            Checks.due(what + "rights below", x.setPage(pages - 1, -1),
+                    PreciseTranslator.BAD_RIGHTS);
+            Checks.due(what + "rights above", x.setPage(0, 3), PreciseTranslator.BAD_RIGHTS);
+            for (int page = 0; page < pages; page++) {
+                Checks.due(what + "rights stay", rightsOf(x, page), 1);
+                Checks.due(what + "least rights", x.setPage(page, 0), 0);
+                Checks.due(what + "least rights", rightsOf(x, page), 0);
+                Checks.due(what + "greatest rights", x.setPage(page, 2), 0);
+                Checks.due(what + "greatest rights", rightsOf(x, page), 2);
             }
         }
     }
@@ -179,6 +219,26 @@ public final class StateTest {
         x.jump(-5);
         x.reset();
         Checks.due("pc after reset", x.pc(), 0);
+        resetOfNoneAndOfFull();
+    }
+
+    private static void resetOfNoneAndOfFull() {
+        PreciseTranslator x = new PreciseTranslator(1, 0);
+        x.reset();
+        Checks.same("reset at once", Checks.seen(x), Checks.seen(new PreciseTranslator(1, 0)));
+        Checks.due("still empty", x.drop(), PreciseTranslator.EMPTY);
+        Checks.due("rights stay 0", rightsOf(x, 0), 0);
+
+        x = new PreciseTranslator(1, 2);
+        for (int i = 0; i < 40; i++) {
+            x.emit(Checks.SET, i, 0, 600 + i);
+        }
+        Checks.due("run of 40", x.run(300), PreciseTranslator.NO_CODE);
+        x.reset();
+        Checks.due("still full", x.emit(Checks.HALT, 0, 0, 0), PreciseTranslator.NO_ROOM);
+        Checks.due("run of 40 again", x.run(300), PreciseTranslator.NO_CODE);
+        Checks.due("steps of 40 again", x.steps(), 40);
+        Checks.due("last done again", x.reg(7), 639);
     }
 
     private static void stepsAndWhereAreOfTheLastRun() {
@@ -210,5 +270,24 @@ public final class StateTest {
         x.emit(Checks.HALT, 0, 0, 0);
         Checks.same("other object", Checks.seen(y), Checks.seen(new PreciseTranslator(4, 0)));
         Checks.due("other program", y.emit(Checks.HALT, 0, 0, 0), 0);
+    }
+
+    /** The 512th call after the making is still promised. */
+    private static void lastPromisedCall() {
+        PreciseTranslator x = new PreciseTranslator(4, 2);
+        int calls = 0;
+        for (; calls < 40; calls++) {
+            x.emit(Checks.ADD, 1, 1, 7);
+        }
+        x.setReg(7, 3);
+        calls++;
+        for (int i = 0; i < 235; i++) {
+            Checks.due("run in call " + (calls + 1), x.run(1), i < 40
+                    ? PreciseTranslator.BUDGET : PreciseTranslator.NO_CODE);
+            Checks.due("reg in call " + (calls + 2), x.reg(1), 3 * Math.min(40, i + 1));
+            calls += 2;
+        }
+        Checks.due("calls before the last", calls, 511);
+        Checks.due("pc in call 512", x.pc(), 40);
     }
 }
